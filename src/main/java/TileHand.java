@@ -599,14 +599,14 @@ public final class TileHand {
      */
     private static final class Cover {
         private static final int MOST_ROWS = 2;
-        private static final int OLDER = 1;
-        private static final int LAST = 3;
-        private static final int PAIR = 9;
-        private static final int GROUP = 18;
+        private static final int LAST = MOST_ROWS + 1;
+        private static final int PAIR = LAST * LAST;
+        private static final int GROUP = 2 * PAIR;
         private static final int STATES = GROUP * (SETS + 1);
 
-        // By the groups begun, whether there is a pair, and how many ROWs
-        // began one kind and two kinds before: the most tiles held so far.
+        // A state is a number with four digits: the groups begun, whether
+        // there is a pair, and how many ROWs began at the last kind and at
+        // the one before it. For each: the most tiles held so far, or NONE.
         private int[] now = new int[STATES];
         private int[] next = new int[STATES];
         private int groupLimit;
@@ -656,13 +656,13 @@ public final class TileHand {
         }
 
         private void lay(int state, int rows, int pair, int three) {
-            int older = state / OLDER % LAST;
-            int last = state / LAST % (MOST_ROWS + 1);
-            int pairs = state / PAIR % 2 + pair;
+            int older = state % LAST;
+            int last = state % PAIR / LAST;
+            int pairs = state % GROUP / PAIR + pair;
             int groups = state / GROUP + rows + three;
             int used = older + last + rows + 2 * pair + SET_SIZE * three;
             if (used <= room && pairs <= 1 && groups <= groupLimit) {
-                int target = GROUP * groups + PAIR * pairs + LAST * rows + OLDER * last;
+                int target = GROUP * groups + PAIR * pairs + LAST * rows + last;
                 next[target] = Math.max(next[target], now[state] + Math.min(used, held));
             }
         }

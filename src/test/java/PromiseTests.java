@@ -240,6 +240,14 @@ final class PromiseTests {
         for (int kind : NO_KINDS) {
             refusedKeeping("6: grow " + kind, hand, INDEX, () -> hand.grow(kind));
         }
+        hand.draw(5);
+        refusedKeeping("6: another THREE does not grow by it", hand, STATE, () -> hand.grow(5));
+        TileHand unlaid = holding(0, 0, 27, 27, 27, 27, 29, 29, 29, 30, 30, 30, 31, 31);
+        check.same("6: THREEs in the hand", unlaid.isComplete(), false);
+        refusedKeeping("6: a THREE that was not laid", unlaid, STATE, () -> unlaid.grow(27));
+        unlaid.meld(1, 30, true);
+        check.same("6: THREEs in the hand, behind a meld", unlaid.isComplete(), false);
+        refusedKeeping("6: a THREE that was not laid, behind a meld", unlaid, STATE, () -> unlaid.grow(27));
         TileHand closed = holding(12, 12, 12, 12);
         closed.meld(1, 12, false);
         check.same("6: a closed one", closed.grow(12), 3);
@@ -269,6 +277,14 @@ final class PromiseTests {
         check.same("7: winds stay", hand.setWinds(27, 27), 28);
         check.same("7: the limit stays", hand.setPoints(1, 1), 5);
         check.same("7: a second begin", hand.begin(), 4);
+        drawAll(hand, 0, 1, 2, 9, 10, 11);
+        hand.meld(0, 9, true);
+        hand.meld(0, 0, true);
+        hand.begin();
+        drawAll(hand, 0, 1, 2, 9, 9, 9, 24, 25, 26, 14, 14, 14, 5, 5);
+        check.same("7: no open meld is left", hand.fans(false), 1);
+        hand.meld(0, 0, false);
+        check.same("7: nor behind a closed one", hand.fans(false), 1);
     }
 
     private void sizeAndCount() {
@@ -412,6 +428,15 @@ final class PromiseTests {
         check.same("15: seen ones do not matter", missingWithSeen(), 1);
     }
 
+    /** The fourth tile of a kind that is melded thrice can be in a ROW alone, and no ROW can have the kind 5. */
+    private void missingInWornRows() {
+        for (int only : new int[] {0, 6, 7, 8}) {
+            TileHand hand = holdingBetween(5, only, 31);
+            drawAll(hand, only, 20, 20);
+            check.same("15: in a ROW alone, " + only, hand.missing(), 2);
+        }
+    }
+
     /** Melds: a FOUR, a THREE, and a THREE. */
     private static TileHand holdingBetween(int four, int three, int other) {
         TileHand hand = holding(four, four, four, four, three, three, three, other, other, other);
@@ -445,6 +470,7 @@ final class PromiseTests {
         check.same("15: a pair of a kind melded thrice can't be", pair.missing(), 2);
         pair.draw(20);
         check.same("15: another pair can", pair.missing(), 1);
+        missingInWornRows();
         TileHand row = holdingBetween(0, 3, 31);
         drawAll(row, 1, 2, 20, 20);
         check.same("15: a ROW with a kind melded thrice", row.missing(), 1);
@@ -466,6 +492,7 @@ final class PromiseTests {
         refusedKeeping("16: melds alone", melded, STATE, () -> melded.advice());
         check.same("16: one tile", holding(33).advice(), 33);
         check.same("16: the odd one", holding(0, 1, 2, 9, 9, 9, 24, 25, 26, 31, 31, 31, 5, 16).advice(), 5);
+        check.same("16: kind 0", holding(0, 3, 3, 9, 9, 9, 24, 25, 26, 31, 31, 31, 17, 18).advice(), 0);
         check.same("16: behind the needed ones",
                 holding(0, 1, 2, 3, 3, 9, 9, 9, 24, 25, 26, 31, 31, 17).advice(), 17);
         TileHand complete = holding(3, 4, 5, 9, 9, 9, 24, 25, 26, 31, 31, 31, 5, 5);
@@ -533,6 +560,10 @@ final class PromiseTests {
         check.same("19: honours in a meld", honour.fans(false), 1);
         check.same("19: one suit and honours", holding(0, 1, 2, 3, 4, 5, 6, 7, 8, 3, 3, 3, 28, 28).fans(false), 1 + 3);
         check.same("19: one suit", holding(0, 1, 2, 3, 4, 5, 6, 7, 8, 3, 3, 3, 1, 1).fans(false), 1 + 6);
+        check.same("19: the last suit, with its last kind",
+                holding(18, 19, 20, 18, 19, 20, 24, 25, 26, 21, 21, 21, 26, 26).fans(false), 1 + 6 + 1);
+        check.same("19: the suits' last kinds are no honours",
+                holding(8, 8, 8, 17, 17, 17, 26, 26, 26, 1, 2, 3, 5, 5).fans(false), 1);
         TileHand other = holding(9, 10, 11, 3, 4, 5, 6, 7, 8, 3, 3, 3, 1, 1);
         other.meld(0, 9, false);
         check.same("19: another suit in a meld", other.fans(false), 1);
@@ -564,6 +595,8 @@ final class PromiseTests {
         winds.grow(31);
         drawAll(winds, 33);
         check.same("19: a FOUR of dragons", winds.fans(false), 6 + 2 + 1 + 1 + 1);
+        TileHand others = holding(28, 28, 28, 29, 29, 29, 30, 30, 30, 0, 1, 2, 20, 20);
+        check.same("19: three winds of others", others.fans(false), 1);
         TileHand dragons = holding(31, 31, 31, 32, 32, 32, 33, 33, 33, 0, 1, 2, 20, 20);
         check.same("19: three dragons", dragons.fans(false), 1 + 3);
         TileHand fours = holding(1, 1, 1, 1, 9, 9, 9, 9);
@@ -581,8 +614,8 @@ final class PromiseTests {
 
     private void fansOfRows() {
         int[] rows = {0, 1, 2, 12, 13, 14, 15, 16, 17, 24, 25, 26};
-        int[] pairFans = {1, 1, 0, 0, 1, 0, 0, 0};
-        int[] pairs = {5, 29, 28, 30, 27, 31, 32, 33};
+        int[] pairFans = {1, 1, 0, 0, 1, 0, 0, 0, 1};
+        int[] pairs = {5, 29, 28, 30, 27, 31, 32, 33, 26};
         for (int i = 0; i < pairs.length; i++) {
             TileHand hand = holding(rows);
             hand.setWinds(28, 30);
@@ -662,6 +695,11 @@ final class PromiseTests {
         TileHand two = holding(1, 2, 3, 4, 5, 6, 12, 13, 14, 22, 22, 9, 10);
         check.same("21: waits", two.waits(), set(11));
         check.same("21: one kind", two.meanPoints(false), 4.0);
+        TileHand first = holding(1, 2, 3, 4, 5, 12, 13, 14, 22, 22, 9, 10, 11);
+        check.same("21: waits", first.waits(), set(0, 3, 6));
+        check.same("21: kind 0 and two more, ROWs alone", first.meanPoints(false), 4.0);
+        TileHand ends = holding(1, 2, 3, 4, 5, 12, 13, 14, 22, 22, 12, 13, 14);
+        check.same("21: four of 0, three of 3, four of 6", ends.meanPoints(true), (4 * 16 + 3 * 32 + 4 * 32) / 11.0);
     }
 
     private static long digestOf(int[] hand, int[] seen, long... rest) {

@@ -223,7 +223,7 @@ final class RunTests {
         for (int i = 0; i < 60; i++) {
             runs.mixedRun();
         }
-        for (int i = 0; i < 4000; i++) {
+        for (int i = 0; i < 1500; i++) {
             runs.completeHand();
         }
         for (int i = 0; i < 400; i++) {

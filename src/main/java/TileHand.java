@@ -443,8 +443,9 @@ public final class TileHand {
 
     /**
      * The most fans of all ways to split the tiles from a kind on into
-     * groups; NONE if there is no way. Each call fills one place of the sets,
-     * so no more than five stand open at once.
+     * groups; NONE if there is no way. Each splitWith.. fills one place of the
+     * sets before it comes back here, so no more than five calls of this
+     * stand open at once.
      */
     private int bestSplit(int pair, int from, int sets) {
         int kind = firstHeld(from);
@@ -454,21 +455,30 @@ public final class TileHand {
         if (sets < 0 || sets >= SETS) {
             return NONE;
         }
-        int best = NONE;
-        if (hand[kind] >= SET_SIZE) {
-            setSorts[sets] = THREE;
-            setKinds[sets] = kind;
-            hand[kind] -= SET_SIZE;
-            best = bestSplit(pair, kind, sets + 1);
-            hand[kind] += SET_SIZE;
+        return Math.max(splitWithThree(pair, kind, sets), splitWithRow(pair, kind, sets));
+    }
+
+    private int splitWithThree(int pair, int kind, int sets) {
+        if (hand[kind] < SET_SIZE) {
+            return NONE;
         }
-        if (beginsRow(kind) && hand[kind + 1] > 0 && hand[kind + 2] > 0) {
-            setSorts[sets] = ROW;
-            setKinds[sets] = kind;
-            moveRow(kind, -1);
-            best = Math.max(best, bestSplit(pair, kind, sets + 1));
-            moveRow(kind, 1);
+        setSorts[sets] = THREE;
+        setKinds[sets] = kind;
+        hand[kind] -= SET_SIZE;
+        int best = bestSplit(pair, kind, sets + 1);
+        hand[kind] += SET_SIZE;
+        return best;
+    }
+
+    private int splitWithRow(int pair, int kind, int sets) {
+        if (!beginsRow(kind) || hand[kind + 1] <= 0 || hand[kind + 2] <= 0) {
+            return NONE;
         }
+        setSorts[sets] = ROW;
+        setKinds[sets] = kind;
+        moveRow(kind, -1);
+        int best = bestSplit(pair, kind, sets + 1);
+        moveRow(kind, 1);
         return best;
     }
 

@@ -4,6 +4,10 @@ public final class AllTests {
         Check check = new Check();
         FaceTests.all(check);
         PromiseTests.all(check);
+        EdgeTests.all(check);
+        FanTests.all(check);
+        RefusalTests.all(check);
+        SweepTests.all(check);
         RunTests.all(check);
         check.report();
         if (check.failures() > 0) {

@@ -2,16 +2,9 @@
  * Promise by promise: ordinary inputs, the edges that the document names, and
  * wrong inputs; the answers that are due were worked out by hand.
  */
-final class PromiseTests {
-    private static final Class<IndexOutOfBoundsException> INDEX = IndexOutOfBoundsException.class;
-    private static final Class<IllegalArgumentException> ARGUMENT = IllegalArgumentException.class;
-    private static final Class<IllegalStateException> STATE = IllegalStateException.class;
-    private static final int[] NO_KINDS = {-1, 34, 35, Integer.MIN_VALUE, Integer.MAX_VALUE};
-    private static final int[] ORPHANS = {0, 8, 9, 17, 18, 26, 27, 28, 29, 30, 31, 32, 33};
-    private final Check check;
-
+final class PromiseTests extends HandTests {
     PromiseTests(Check check) {
-        this.check = check;
+        super(check);
     }
 
     static void all(Check check) {
@@ -41,26 +34,6 @@ final class PromiseTests {
         tests.points();
         tests.meanPoints();
         tests.digest();
-    }
-
-    private static TileHand holding(int... kinds) {
-        TileHand hand = new TileHand();
-        drawAll(hand, kinds);
-        return hand;
-    }
-
-    private static void drawAll(TileHand hand, int... kinds) {
-        for (int kind : kinds) {
-            hand.draw(kind);
-        }
-    }
-
-    private static long set(int... kinds) {
-        long set = 0;
-        for (int kind : kinds) {
-            set += 1L << kind;
-        }
-        return set;
     }
 
     /** The call is refused, and nothing is changed by it. */

@@ -8,16 +8,21 @@ final class RunTests {
     private TileHand hand;
     private PlainHand plain;
     private String told;
+    private int calls;
 
     RunTests(Check check, long seed) {
         this.check = check;
         this.random = new Random(seed);
     }
 
-    /** Calls of all sorts, wrong ones too; the slow ones are rare while PlainHand is slow in them. */
+    /**
+     * Calls of all sorts, wrong ones too; the slow ones are rare while
+     * PlainHand is slow in them. One step makes two calls at most, and the
+     * digest is the last of the 512 that an object is used for.
+     */
     void mixedRun() {
         startOver();
-        for (int i = 0; i < CALLS; i++) {
+        for (int i = 0; i < CALLS && calls < CALLS - 2; i++) {
             mixedCall();
         }
         both("digest()", () -> hand.digest(), () -> plain.digest());
@@ -27,9 +32,16 @@ final class RunTests {
         hand = new TileHand();
         plain = new PlainHand();
         told = "";
+        calls = 0;
+    }
+
+    /** What is tried at random must leave some of the 512 calls for what is asked of the hand then. */
+    private boolean mayTry(int tries, int mostCalls) {
+        return tries < 400 && calls < mostCalls;
     }
 
     private void both(String call, Check.Call mine, Check.Call due) {
+        calls++;
         Object want = Check.outcome(due);
         int before = check.failures();
         check.same(call, Check.outcome(mine), want);
@@ -133,10 +145,10 @@ final class RunTests {
         both("setPoints", () -> hand.setPoints(7, limit), () -> plain.setPoints(7, limit));
         int melds = random.nextInt(5);
         int honours = random.nextInt(5) == 0 ? 3 : random.nextInt(20) == 0 ? 10 : 0;
-        for (int tries = 0; plain.size() < 12 && tries < 200; tries++) {
+        for (int tries = 0; plain.size() < 12 && mayTry(tries, 300); tries++) {
             drawGroup(melds, suit + start, span, honours);
         }
-        for (int tries = 0; plain.size() < 14 && tries < 200; tries++) {
+        for (int tries = 0; plain.size() < 14 && mayTry(tries, 400); tries++) {
             int kind = random.nextInt(4) == 0 ? random.nextInt(34) : suit + random.nextInt(9);
             if (plain.hand[kind] == 0 && plain.size() == 12) {
                 draw(kind, 2);
@@ -204,11 +216,11 @@ final class RunTests {
     void missingTiles(int melds) {
         startOver();
         int width = 5 + random.nextInt(30);
-        for (int tries = 0; tries < 400 && plain.melds.size() < melds; tries++) {
+        for (int tries = 0; plain.melds.size() < melds && mayTry(tries, 300); tries++) {
             drawGroup(melds, random.nextInt(3) * 9, 1 + random.nextInt(7), 2);
         }
         int want = random.nextInt(5) == 0 ? random.nextInt(15) : 13 + random.nextInt(2);
-        for (int tries = 0; tries < 400 && plain.size() < want; tries++) {
+        for (int tries = 0; plain.size() < want && mayTry(tries, 400); tries++) {
             int kind = random.nextInt(Math.min(width, 34));
             both("draw(" + kind + ")", () -> hand.draw(kind), () -> plain.draw(kind));
         }

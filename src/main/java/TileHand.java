@@ -233,11 +233,15 @@ public final class TileHand {
     }
 
     public int fans(boolean isSelf) throws IllegalStateException {
-        return completeFans(isSelf);
+        int fans = fansNow(isSelf);
+        requireComplete(fans);
+        return fans;
     }
 
     public int points(boolean isSelf) throws IllegalStateException {
-        return pointsFor(completeFans(isSelf));
+        int fans = fansNow(isSelf);
+        requireComplete(fans);
+        return pointsFor(fans);
     }
 
     public double meanPoints(boolean isSelf) {
@@ -499,14 +503,13 @@ public final class TileHand {
 
     // ---- fans
 
-    private int completeFans(boolean isSelf) {
-        int fans = fansNow(isSelf);
+    private static void requireComplete(int fans) {
         if (fans == NONE) {
             throw new IllegalStateException("the hand is not complete");
         }
-        return fans;
     }
 
+    /** The sum of the fans; NONE if the hand is not complete. */
     private int fansNow(boolean isSelf) {
         int best = bestArrangement();
         if (best == NONE) {

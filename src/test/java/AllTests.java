@@ -3,6 +3,7 @@ public final class AllTests {
     public static void main(String[] args) {
         Check check = new Check();
         FaceTests.all(check);
+        ReadmeTests.all(check);
         PromiseTests.all(check);
         EdgeTests.all(check);
         FanTests.all(check);
